@@ -229,7 +229,7 @@ public final class ActsTest {
         for (int i = 0; i < 8; i++) {
             x.days(1);
         }
-        x.go(0, 2);
+        x.go(0, 0);
         x.join(0, 0);
         x.part(2);
         x.trade(0, 0, 0, 0);
