@@ -49,23 +49,6 @@ public final class ForecastTest {
         K.is("19 no person", x.when(-1, 0), -1);
         K.is("19 no end", x.when(0, 2), -1);
         K.is("19 no end", x.when(0, -1), -1);
-        for (int i = 0; i < 6; i++) {
-            x.days(60);
-        }
-        x.days(29);
-        K.is("19 day", x.now(0), 397);
-        BridgeToll y = Kit.on("thing a near 4;person p near far;asks far a 12;");
-        y.days(40);
-        y.undo();
-        K.is("19 48", y.when(0, 1), 48);
-        BridgeToll z = Kit.on("thing a near 1;person p near far;person q bridge far;asks far a 5;");
-        for (int i = 0; i < 6; i++) {
-            z.days(60);
-        }
-        z.days(36);
-        z.go(0, 1);
-        z.ask(0, 0, 12);
-        z.go(0, 0);
         BridgeToll w = Kit.on("thing a far 1;person p near far;person q far far;asks near a 5;asks far a 4;");
         for (int i = 0; i < 6; i++) {
             w.days(60);
