@@ -1111,18 +1111,23 @@ public final class BridgeToll {
             }
         }
 
-        void learnByMeeting(int p, int q) {
+        /** Whether one of them learned something. */
+        boolean learnByMeeting(int p, int q) {
             if (!isPerson(q) || places[p] != places[q]) {
-                return;
+                return false;
             }
+            boolean isLearned = false;
             for (int t = 0; t < things; t++) {
                 int more = held(p, t) - held(q, t);
                 if (more >= 2) {
                     setHeld(q, t, held(q, t) + 1);
+                    isLearned = true;
                 } else if (more <= -2) {
                     setHeld(p, t, held(p, t) + 1);
+                    isLearned = true;
                 }
             }
+            return isLearned;
         }
     }
 
@@ -1720,7 +1725,10 @@ public final class BridgeToll {
                 trial.learnByLiving(p);
                 if (trial.isPerson(q)) {
                     trial.learnByLiving(q);
-                    trial.learnByMeeting(p, q);
+                }
+                // Nothing but meeting teaches on the bridge: a DAY without that is like all behind it.
+                if (!trial.learnByMeeting(p, q) && trial.places[p] == BRIDGE_PLACE) {
+                    return NONE;
                 }
             }
             return NONE;
