@@ -885,7 +885,7 @@ public final class BridgeToll {
 
         /** What is above 12 is lost. */
         void setHeld(int p, int t, int n) {
-            holdings[p * MOST_THINGS + t] = Math.min(n, MOST_HELD);
+            holdings[p * MOST_THINGS + t] = n < MOST_HELD ? n : MOST_HELD;
         }
 
         int askedAt(int e, int t) {
@@ -1006,7 +1006,7 @@ public final class BridgeToll {
             if (to < 0 || to >= PLACES || Math.abs(to - from) != 1) {
                 return 1;
             }
-            if (from == BRIDGE_PLACE && !couldPay(p, endAt(to))) {
+            if (from == BRIDGE_PLACE && lackedBits(p, endAt(to)) != 0) {
                 return 2;
             }
             places[p] = to;
@@ -1015,12 +1015,13 @@ public final class BridgeToll {
             return 0;
         }
 
-        int walkTowardsWanted(int p) {
-            return walk(p, wants[p] == FAR_END ? places[p] + 1 : places[p] - 1);
+        /** May be beyond an END, where one can't walk. */
+        int placeTowardsWanted(int p) {
+            return wants[p] == FAR_END ? places[p] + 1 : places[p] - 1;
         }
 
-        int walkAway(int p) {
-            return walk(p, wants[p] == FAR_END ? places[p] - 1 : places[p] + 1);
+        int placeAwayFromWanted(int p) {
+            return wants[p] == FAR_END ? places[p] - 1 : places[p] + 1;
         }
 
         int pair(int p, int q) {
@@ -1413,7 +1414,11 @@ public final class BridgeToll {
                 case ASK:
                     return raised(outcome.demand(line[0], line[1], line[2]), 40);
                 default:
-                    return spendDays(line[0]);
+                    if (outcome.daysLeft() < line[0]) {
+                        return FEWER_DAYS_LEFT;
+                    }
+                    outcome.liveDays(line[0]);
+                    return 0;
             }
         }
 
@@ -1421,13 +1426,6 @@ public final class BridgeToll {
             return why == 0 ? 0 : why + by;
         }
 
-        private int spendDays(int n) {
-            if (n > outcome.daysLeft()) {
-                return FEWER_DAYS_LEFT;
-            }
-            outcome.liveDays(n);
-            return 0;
-        }
     }
 
     /** A SENTENCE, its parts in the order in which they are worked out (what joins two behind both). */
@@ -1676,10 +1674,10 @@ public final class BridgeToll {
         private void actByDraw(World w, int p) {
             switch (draw(5)) {
                 case 0:
-                    w.walkTowardsWanted(p);
+                    w.walk(p, w.placeTowardsWanted(p));
                     break;
                 case 1:
-                    w.walkAway(p);
+                    w.walk(p, w.placeAwayFromWanted(p));
                     break;
                 case 2:
                     w.pair(p, draw(w.persons));
@@ -1811,7 +1809,7 @@ public final class BridgeToll {
                 boolean areAllOver = true;
                 for (int p = 0; p < trial.persons; p++) {
                     if (!trial.isAtWanted(p)) {
-                        trial.walkTowardsWanted(p);
+                        trial.walk(p, trial.placeTowardsWanted(p));
                     }
                     areAllOver = areAllOver && trial.isAtWanted(p);
                 }

@@ -14,6 +14,7 @@ public final class DrawTest {
                 compare(town, seed, 1);
                 compare(town, seed, 25);
                 odds(town, seed, 7);
+                odds(town, seed, 1);
             }
             odds(town, Integer.MAX_VALUE - 2, 6);
         }

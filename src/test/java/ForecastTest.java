@@ -36,7 +36,9 @@ public final class ForecastTest {
         K.is("19 99 days", x.when(0, 1), 99);
         K.is("19 longer", x.when(0, 0), -1);
         K.is("19 never", x.when(1, 0), -1);
-        x.days(8);
+        x.days(7);
+        K.is("19 101 days", x.when(0, 0), -1);
+        x.days(1);
         K.is("19 100 days", x.when(0, 0), 100);
         K.is("19 far", x.when(0, 1), 91);
         x.ask(1, 0, 0);
@@ -92,7 +94,9 @@ public final class ForecastTest {
         K.is("19 by the one he meets never", x.when(0, 1), -1);
         BridgeToll y = Kit.on("thing a near 9;person p near far;asks far a 12;");
         K.is("20 longer than 100", y.teacher(0), -1);
-        y.days(8);
+        y.days(7);
+        K.is("20 101", y.teacher(0), -1);
+        y.days(1);
         K.is("20 100", y.teacher(0), 100);
         K.is("21 none", y.taught(), -1);
         BridgeToll z = Kit.on("thing a near 9;person p near far;person q near far;asks far a 12;has q a 12;");

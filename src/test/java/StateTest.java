@@ -69,7 +69,15 @@ public final class StateTest {
         x.go(2, 1);
         x.go(2, 0);
         k.is("10 from the bridge without the toll", x.now(5), 1);
+        x.go(3, 1);
+        x.go(3, 2);
+        k.is("10 all goings", x.now(5), 3);
         x.days(2);
         k.is("10 day", x.now(0), 2);
+        BridgeToll y = Kit.on("person a near far;person b near far;");
+        y.go(0, 1);
+        y.go(0, 2);
+        y.go(1, 1);
+        k.is("10 the first one's goings too", y.now(5), 3);
     }
 }
