@@ -587,7 +587,8 @@ public final class BridgeToll {
             }
             boolean isTooLong = tape.length > mostBytes;
             put(isTooLong ? BROKEN : ENDED, isTooLong ? mostBytes : tape.length, 0, Word.NAME);
-            goTo(0);
+            at = -1;
+            step();
         }
 
         /** Letters and digits belong to one run even where they make no TOKEN together. */
@@ -645,17 +646,12 @@ public final class BridgeToll {
             }
         }
 
-        private void goTo(int i) {
-            if (i < scanned) {
-                at = i;
-                kind = kinds[i];
-                word = words[i];
-            }
-        }
-
+        /** Goes to the next TOKEN, unless there is a FAULT at this one. */
         void step() {
-            if (fault == 0) {
-                goTo(at + 1);
+            if (fault == 0 && at + 1 < scanned) {
+                at++;
+                kind = kinds[at];
+                word = words[at];
             }
         }
 
