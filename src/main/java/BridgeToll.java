@@ -304,7 +304,7 @@ public final class BridgeToll {
     }
 
     public int schooled(int p) {
-        return world.isPerson(p) ? outlook.latestSchool[p] : NONE;
+        return outlook.schoolmateOf(p);
     }
 
     public int laws() {
@@ -414,7 +414,7 @@ public final class BridgeToll {
             return -2 - tokens.faultPlace;
         }
         int wrong = book.judge(world);
-        if (lives == 1) {
+        if (lives == 1 && book.hasRightLines()) {
             past.sketch(world);
             past.keep();
             world.copyFrom(book.outcome);
@@ -1397,6 +1397,11 @@ public final class BridgeToll {
             return why == 0 ? NONE : right;
         }
 
+        /** Without one nothing is lived, and there is nothing that could be undone. */
+        boolean hasRightLines() {
+            return tidings[1] > 0;
+        }
+
         private int liveLine(Word act, int[] line) {
             switch (act) {
                 case GOES:
@@ -1421,7 +1426,6 @@ public final class BridgeToll {
         private static int raised(int why, int by) {
             return why == 0 ? 0 : why + by;
         }
-
     }
 
     /** A SENTENCE, its parts in the order in which they are worked out (what joins two behind both). */
@@ -1756,6 +1760,11 @@ public final class BridgeToll {
             leastDays = MOST_SCHOOL + 1;
             tryPairs(now.persons, 0, now.whoIsAt(BRIDGE_PLACE), 0);
             return leastDays <= MOST_SCHOOL ? leastDays : NONE;
+        }
+
+        /** Asked of the PERSONS of that school(): the BRIDGE may be another one by now. */
+        int schoolmateOf(int p) {
+            return p >= 0 && p < MOST_PERSONS ? latestSchool[p] : NONE;
         }
 
         /** DAYS till both could PAY what they WANT (p and p: till he could without meeting anybody). */

@@ -11,6 +11,7 @@ public final class BookTest {
         lengths();
         faultsChangeNothing();
         undoneWhole();
+        nothingLived();
         K.close();
     }
 
@@ -215,5 +216,32 @@ public final class BookTest {
         K.is("17 the book", x.undo(), 1);
         K.is("17", x.now(0), 1);
         K.is("36 stays", x.told(2), 6);
+    }
+
+    /** A BOOK without a LINE that is right is nothing that could be undone, and costs no older act. */
+    private static void nothingLived() {
+        BridgeToll x = new BridgeToll();
+        K.is("35 empty", x.book(1), -1);
+        K.is("17 no LINE was lived", x.undo(), -1);
+        x = Kit.on(Kit.TOWN);
+        String before = Kit.seen(x);
+        K.is("35 blanks", Kit.book(x, " \n", 1), -1);
+        K.is("35 wrong at once", Kit.book(x, "cid goes far;day 1;", 1), 0);
+        told("36", x, 1, 0, 0, x.now(4));
+        K.is("35 nothing was lived", Kit.seen(x).equals(before), true);
+        K.is("17 no LINE was lived", x.undo(), -1);
+        for (int i = 0; i < 8; i++) {
+            x.days(1);
+        }
+        Kit.book(x, "", 1);
+        Kit.book(x, "cid parts;", 1);
+        Kit.book(x, "cid joins", 1);
+        for (int i = 7; i >= 0; i--) {
+            K.is("17 the eight days are kept", x.undo(), i);
+            K.is("17 day", x.now(0), i);
+        }
+        Kit.book(x, "day 1;cid parts;", 1);
+        K.is("17 one LINE was lived", x.undo(), 0);
+        K.is("17 as it was", Kit.seen(x).equals(before), true);
     }
 }

@@ -239,5 +239,13 @@ public final class ForecastTest {
         K.is("21 stays", x.taught(), 1);
         K.is("23 stays", x.schooled(1), 0);
         K.is("29 stays", x.crowd(), 1);
+        Kit.bridge(x, "");
+        K.is("23 stays without PERSONS", x.schooled(0), 1);
+        K.is("23 stays without PERSONS", x.schooled(1), 0);
+        K.is("23 no such one then", x.schooled(2), -1);
+        K.is("23 no such one", x.schooled(8), -1);
+        K.is("23 no such one", x.schooled(-1), -1);
+        K.is("22 nobody", x.school(), 0);
+        K.is("23 nobody by the latest", x.schooled(0), -1);
     }
 }
