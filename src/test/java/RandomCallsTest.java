@@ -128,6 +128,12 @@ public final class RandomCallsTest {
         K.is("6 person(" + p + ", " + what + ")", threw, !isThere);
     }
 
+    /** Lives a BOOK of so many LINES, the last of them WRONG where fewer DAYS are left: whether one was lived. */
+    private static boolean livesSome(BridgeToll x, int lines) {
+        x.end(0);
+        return Kit.book(x, Kit.times("day 9;", lines), 1) >= -1 && x.told(1) > 0;
+    }
+
     private static void undoGoesBack(Random r, BridgeToll x) {
         x.image(0);
         x.restore(0);
@@ -136,13 +142,14 @@ public final class RandomCallsTest {
         for (int i = 0; i < 30; i++) {
             String before = Kit.seen(x);
             int a = r.nextInt(8);
-            boolean isDone = switch (r.nextInt(7)) {
+            boolean isDone = switch (r.nextInt(8)) {
                 case 0 -> x.go(a, r.nextInt(3)) == 0;
                 case 1 -> x.join(a, r.nextInt(8)) == 0;
                 case 2 -> x.part(a) == 0;
                 case 3 -> x.trade(a, r.nextInt(6), r.nextInt(8), r.nextInt(6)) == 0;
                 case 4 -> x.ask(r.nextInt(2), r.nextInt(6), r.nextInt(13)) == 0;
                 case 5 -> x.days(a) > 0;
+                case 6 -> livesSome(x, a);
                 default -> x.drawn(a, i) > 0;
             };
             if (isDone) {
