@@ -34,6 +34,41 @@ final class Kit {
         is(what + " throws", thrown, 1);
     }
 
+    /** A BRIDGE read by a new object: how many LINES, or -1 less the place of a FAULT, whose kind is due too. */
+    void bridgeIs(String text, int due, int kind) {
+        BridgeToll x = new BridgeToll();
+        is("bridge [" + text + "]", bridge(x, text), due);
+        is("fault of bridge [" + text + "]", x.fault(), kind);
+        is("the tape is empty behind bridge [" + text + "]", x.count(2), 0);
+    }
+
+    void bridgeFault(String text, int kind, int place) {
+        bridgeIs(text, -1 - place, kind);
+    }
+
+    /** A BOOK judged on a BRIDGE. */
+    void bookIs(String on, String text, int due, int kind) {
+        BridgeToll x = on(on);
+        is("book [" + text + "]", book(x, text, 0), due);
+        is("fault of book [" + text + "]", x.fault(), kind);
+        is("the tape is empty behind book [" + text + "]", x.count(2), 0);
+    }
+
+    void bookFault(String on, String text, int kind, int place) {
+        bookIs(on, text, -2 - place, kind);
+    }
+
+    void sentenceIs(String text, int due, int kind) {
+        BridgeToll x = new BridgeToll();
+        is("sentence [" + text + "]", sentence(x, text), due);
+        is("fault of sentence [" + text + "]", x.fault(), kind);
+        is("the tape is empty behind sentence [" + text + "]", x.count(2), 0);
+    }
+
+    void sentenceFault(String text, int kind, int place) {
+        sentenceIs(text, -1 - place, kind);
+    }
+
     void close() {
         System.out.println(asked + " answers, " + wrong + " not as due");
         if (wrong != 0 || asked == 0) {
@@ -106,12 +141,46 @@ final class Kit {
         return b.toString();
     }
 
+    /** LINES of n THINGS, ta, tb, .., that one has by living a DAY near. */
+    static String things(int n) {
+        StringBuilder b = new StringBuilder();
+        for (int i = 0; i < n; i++) {
+            b.append("thing t").append((char) ('a' + i)).append(" near 1;");
+        }
+        return b.toString();
+    }
+
+    /** LINES of n PERSONS, pa, pb, .., all of them in one PLACE and of one mind. */
+    static String persons(int n, String place, String end) {
+        StringBuilder b = new StringBuilder();
+        for (int i = 0; i < n; i++) {
+            b.append("person p").append((char) ('a' + i)).append(' ').append(place).append(' ').append(end).append(';');
+        }
+        return b.toString();
+    }
+
+    /** So many DAYS at once, whatever days() takes. */
+    static void live(BridgeToll x, int n) {
+        for (int left = n; left > 0; left -= 60) {
+            x.days(Math.min(left, 60));
+        }
+    }
+
     static String times(String s, int n) {
         return s.repeat(n);
     }
 
-    /** All that can be seen of the BRIDGE, so that two moments can be compared. */
+    /** All that can be seen of the BRIDGE, so that two moments can be compared; PASSES are written for the NAMES. */
     static String seen(BridgeToll x) {
+        StringBuilder b = new StringBuilder(glance(x));
+        for (int p = 0; p < x.count(1); p++) {
+            b.append(passText(x, p)).append(' ');
+        }
+        return b.toString();
+    }
+
+    /** As seen, without a call that changes what is told last. */
+    static String glance(BridgeToll x) {
         StringBuilder b = new StringBuilder();
         for (int i = 0; i < 7; i++) {
             b.append(x.now(i)).append(' ');
@@ -127,7 +196,7 @@ final class Kit {
             for (int t = 0; t < x.count(0); t++) {
                 b.append(x.have(p, t)).append(',');
             }
-            b.append(passText(x, p)).append(' ');
+            b.append(' ');
         }
         return b.toString();
     }
