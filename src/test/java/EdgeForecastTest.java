@@ -147,6 +147,14 @@ public final class EdgeForecastTest {
             K.is(due + " DAYS", x.teacher(0), due <= 100 ? due : -1);
             x.days(1);
         }
+        // He has the one THING by living, the other one from q alone.
+        x = Kit.on("thing a near 9;thing b far 1;person p near far;person q near far;has q b 5;asks far a 12;asks far b 3;");
+        for (int stayed = 0; stayed <= 12; stayed++) {
+            int due = 108 - stayed;
+            K.is(due + " DAYS by q", x.teacher(0), due <= 100 ? due : -1);
+            K.is("whom he should MEET", x.taught(), due <= 100 ? 1 : -1);
+            x.days(1);
+        }
     }
 
     private static void teacherWhenFewerAreLeft() {
