@@ -223,6 +223,16 @@ public final class EdgeForecastTest {
             K.is("nobody is on the bridge", x.school(), 0);
             K.is("nobody", x.schooled(0), -1);
         }
+        BridgeToll x = Kit.on("thing a near 1;person p bridge near;person q bridge near;asks far a 9;asks near a 1;has p a 1;has q a 1;");
+        K.is("both could", x.school(), 0);
+        K.is("the first by the second", x.schooled(0), 1);
+        K.is("far they could not", x.when(0, 1), -1);
+        x.go(0, 0);
+        x.go(1, 0);
+        x.ask(0, 0, 5);
+        K.is("nobody is on the bridge any more", x.school(), 0);
+        K.is("nobody", x.schooled(0), -1);
+        K.is("nobody", x.schooled(1), -1);
     }
 
     private static void schoolOfOne() {

@@ -15,6 +15,7 @@ public final class EdgeStateTest {
         whoCouldPay();
         howOftenGone();
         stayed();
+        fiveHundredAndTwelveCalls();
         K.close();
     }
 
@@ -160,5 +161,21 @@ public final class EdgeStateTest {
         K.is("the most", x.person(1, 2), 400);
         x.days(1);
         K.is("no DAY goes any more", x.person(1, 2), 400);
+    }
+
+    /** An object is used for at most 512 calls: the last of them is still due. */
+    private static void fiveHundredAndTwelveCalls() {
+        BridgeToll x = new BridgeToll();
+        // "person ab near far; ", "crossed = 505       "
+        x.feed(0x70657273, 0x6f6e2061, 0x62206e65, 0x61722066, 0x61723b20);
+        x.bridge();
+        for (int i = 1; i <= 505; i++) {
+            K.is("going " + i, x.go(0, i % 2), 0);
+        }
+        x.feed(0x63726f73, 0x73656420, 0x3d203530, 0x35202020, 0x20202020);
+        K.is("call 509", x.sentence(), 1);
+        K.is("call 510", x.said(-1), 1);
+        K.is("call 511", x.undo(), 7);
+        K.is("call 512", x.person(0, 4), 504);
     }
 }
