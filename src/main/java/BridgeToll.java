@@ -579,7 +579,7 @@ public final class BridgeToll {
                 if (isBlank(b)) {
                     next++;
                 } else if (isLetter(b) || isDigit(b)) {
-                    next = scanRun(next);
+                    next = Math.max(next + 1, scanRun(next));
                 } else {
                     put(isSign(b) ? SIGN : BROKEN, next, b, Word.NAME);
                     next++;
